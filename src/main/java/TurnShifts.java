@@ -762,6 +762,7 @@ public final class TurnShifts {
         private final int[] kinds = new int[MOST_JOBS];
         private final int[] operands = new int[MOST_JOBS * OPERANDS];
         private final int[] ties = new int[MOST_JOBS * OPERANDS];
+        /** So many lines stand ahead of the one that is read. */
         private int lines;
 
         private OrdersText(Tape tape) {
@@ -771,14 +772,15 @@ public final class TurnShifts {
         /** The fault, or NONE. */
         private int read() {
             scan.at = 0;
-            for (lines = 0; lines < MOST_JOBS; lines++) {
-                int fault = readLine();
+            lines = 0;
+            for (int line = 0; line < MOST_JOBS; line++) {
+                int fault = readLine(line);
                 if (fault != NONE) {
                     return fault;
                 }
+                lines = line + 1;
                 scan.skipBlanks();
                 if (scan.isAtEnd()) {
-                    lines++;
                     return NONE;
                 }
                 if (scan.here() != ';') {
@@ -795,8 +797,8 @@ public final class TurnShifts {
             return ties[at] != NONE || ties[at + 1] != NONE || ties[at + 2] != NONE;
         }
 
-        private int readLine() {
-            int at = lines * OPERANDS;
+        private int readLine(int line) {
+            int at = line * OPERANDS;
             for (int what = 0; what < OPERANDS; what++) {
                 operands[at + what] = 0;
                 ties[at + what] = NONE;
@@ -806,7 +808,7 @@ public final class TurnShifts {
             scan.passLetters();
             for (int kind = 0; kind < KINDS.length; kind++) {
                 if (scan.reads(KINDS[kind].word, from)) {
-                    kinds[lines] = kind;
+                    kinds[line] = kind;
                     return readOperands(at, KINDS[kind].names);
                 }
             }
