@@ -117,12 +117,23 @@ public final class PromisesTest {
             {"width;6", 5}, {"width -6", 6}, {"width 6 6", 8}, {"width 6 stages 5", 8}, {"width 6;;stages 5", 8},
             {"width 6;stages 5;", 17}, {"width 6;stages 5; ", 18}, {"width 6;stages 5 x", 17},
             {"width 6;stages 5;near 1", 22}, {"width 6\t;stages 5", 7}, {"near;width 6", 12},
-            {"width 6;stages 5" + (char) 233, 16}, {"width 6;stages 5 near", 17}, {"width width", 6},
+            {"width 006;stages 5", 6}, {"xidth 6", 0}, {"nearz;width 6", 0}, {"width 6;stages 5" + (char) 233, 16}, {"width 6;stages 5 near", 17}, {"width width", 6},
         };
         for (Object[] row : all) {
             same("4 unit \"" + row[0] + "\"", Check.unitFault((String) row[0]), (Integer) row[1]);
         }
         TurnShifts x = new TurnShifts();
+        Check.tape(x, "width 6;stages 5;near");
+        x.end(7);
+        same("4 nothing behind the end is read", x.fault(0), 7);
+        x.end(5);
+        same("4 nothing behind the end is read", x.fault(0), 5);
+        Check.tape(x, " ".repeat(395) + "width");
+        same("4 400 bytes", x.fault(0), 400);
+        Check.tape(x, " ".repeat(393) + "width 6");
+        same("4 400 bytes", x.fault(0), 400);
+        Check.tape(x, " ".repeat(384) + "width 6;stages 5");
+        same("4 400 bytes", x.fault(0), NONE);
         same("4 another what", x.fault(2), -2);
         same("4 another what", x.fault(-1), -2);
     }
@@ -137,7 +148,7 @@ public final class PromisesTest {
             {"polar 1", 7}, {"polar 1 2", NONE}, {"polar 1-2", NONE}, {"polar 12", 8}, {"polar 1 2 3", 10},
             {"times 1 2", NONE}, {"over 1 2", NONE}, {"bow 1", NONE}, {"power 1", NONE}, {"log 1", NONE},
             {"root 1", NONE}, {"turn 1 2 3", NONE}, {"turn 1 2", 8}, {"turn 1 2 3 4", 11}, {"turns 1 2 3", 0},
-            {"Sine 1", 0}, {"1", 0}, {"sine1;sine@0", NONE}, {"sine1;sine@0'", NONE}, {"sine1;sine@00'", NONE},
+            {"Sine 1", 0}, {"xine 1", 0}, {"sinez 1", 0}, {"1", 0}, {"sine1;sine@0", NONE}, {"sine1;sine@0'", NONE}, {"sine1;sine@00'", NONE},
             {"sine1;sine @000", 11}, {"sine1;sine @1", 11}, {"sine1;sine @", 11}, {"sine1;sine @ 0", 11},
             {"sine1;sine @0 '", 14}, {"sine1;sine @0''", 14}, {"sine1;sine @'", 11}, {"sine1;sine @-0", 11},
             {"sine @0", 5}, {"sine1;polar@0@0", NONE}, {"sine1;polar@0'@0'", NONE}, {"sine1;polar@0 1;log@1", NONE},
@@ -146,6 +157,18 @@ public final class PromisesTest {
         for (Object[] row : all) {
             same("4 orders \"" + row[0] + "\"", Check.ordersFault((String) row[0]), (Integer) row[1]);
         }
+        TurnShifts x = new TurnShifts();
+        Check.tape(x, "sine 1;sine @0'");
+        x.end(6);
+        same("4 nothing behind the end is read", x.fault(1), NONE);
+        Check.tape(x, " ".repeat(394) + "sine 1");
+        same("4 400 bytes", x.fault(1), NONE);
+        Check.tape(x, " ".repeat(396) + "sine");
+        same("4 400 bytes", x.fault(1), 400);
+        Check.tape(x, " ".repeat(394) + "sine -");
+        same("4 400 bytes", x.fault(1), 399);
+        Check.tape(x, "sine1" + " ".repeat(388) + ";sine@0");
+        same("4 400 bytes", x.fault(1), NONE);
         String sixty = "bow1;".repeat(60);
         same("4 sixty lines", Check.ordersFault(sixty.substring(0, 299)), NONE);
         same("4 sixty lines and ;", Check.ordersFault(sixty), 300);
@@ -405,6 +428,9 @@ public final class PromisesTest {
         same("30 none", x.fewest(6, 0), NONE);
         same("30 none", x.fewest(6, Integer.MIN_VALUE), NONE);
         same("30 all", x.fewest(6, Integer.MAX_VALUE), 5);
+        // W is TH(22), TH(21) by 2 to the 26: 16 with 24 stages, 32 with 23.
+        TurnShifts wide = Check.unit("width 22;guard 4;stages 5");
+        same("30 as many as there can be", wide.fewest(6, (32 + 192 + 32) / 16 + 2), 24);
         TurnShifts other = Check.unit("width 8;guard 2;stages 24;fold 2");
         same("30 the unit's own stages don't matter", other.fewest(0, (64 + 20 + 32) / 4 + 1), 6);
     }
