@@ -3,8 +3,10 @@ import java.util.Random;
 
 /** Long runs of calls, drawn from fixed seeds: each answer of TurnShifts is held against the Model's. */
 public final class ModelTest {
-    private static final int RUNS = Integer.getInteger("runs", 400);
+    private static final int RUNS = Integer.getInteger("runs", 600);
     private static final int CALLS = 512;
+    /** No step makes more calls than this: a text of 400 bytes fed, asked about and taken. */
+    private static final int CALLS_OF_A_STEP = 30;
     private static final String[] WORDS =
         {"sine", "polar", "times", "over", "bow", "power", "log", "root", "turn"};
     private static final int[] NAMES = {1, 2, 2, 2, 1, 1, 1, 1, 3};
@@ -16,6 +18,7 @@ public final class ModelTest {
     private final StringBuilder past = new StringBuilder();
     private TurnShifts mine;
     private Model due;
+    private int made;
     private boolean stop;
 
     private ModelTest(long seed) {
@@ -35,12 +38,11 @@ public final class ModelTest {
     private void run(long seed) {
         mine = new TurnShifts();
         due = new Model();
-        calls -= 1;
         if (random.nextInt(12) != 0) {
             text(unitText(), false);
             same("unit()", mine.unit(), due.unit());
         }
-        for (int call = 0; call < CALLS && !stop; call++) {
+        while (made + CALLS_OF_A_STEP <= CALLS && !stop) {
             step();
         }
         if (stop) {
@@ -51,6 +53,7 @@ public final class ModelTest {
 
     private void same(String call, long got, long want) {
         calls++;
+        made++;
         past.append("  ").append(call).append(" -> ").append(got).append('\n');
         if (got != want) {
             past.append("  due is ").append(want).append('\n');
@@ -84,7 +87,7 @@ public final class ModelTest {
 
     /** An operand: within, at or just beyond a power of 2 round the unit's width. */
     private int operand() {
-        int f = Math.max(6, mine.rule(0));
+        int f = Math.max(6, due.rule(0));
         int limit = 1 << (f + pick(-f, -2, -1, 0, 0, 1, 2, 3, 4, 4, 5, 5, 6));
         switch (below(12)) {
             case 0: return pick(0, 1, -1, 2, -2);
@@ -93,7 +96,7 @@ public final class ModelTest {
             case 3: return limit + 1;
             case 4: return -limit - 1;
             case 5: return below(10) == 0 ? random.nextInt() : limit - 1;
-            case 6: return mine.constant(below(3)) * pick(-9, -3, -2, -1, 1, 2, 3, 9) >> Math.max(0, mine.rule(1));
+            case 6: return due.constant(below(3)) * pick(-9, -3, -2, -1, 1, 2, 3, 9) >> Math.max(0, due.rule(1));
             default: return below(2 * limit + 1) - limit;
         }
     }
@@ -130,7 +133,7 @@ public final class ModelTest {
                 if (below(3) == 0 && line > 0) {
                     all.append('@').append(below(line + (below(20) == 0 ? 2 : 0))).append(below(3) == 0 ? "'" : "");
                 } else {
-                    int f = Math.max(6, mine.rule(0));
+                    int f = Math.max(6, due.rule(0));
                     int value = lines > 50 ? 1 + below(9) : below(9) == 0 ? operand() : 1 + below(1 << f);
                     all.append(what > 0 && value >= 0 ? " " : "").append(value);
                 }
@@ -175,7 +178,7 @@ public final class ModelTest {
     }
 
     private int someJob() {
-        return from(0, Math.max(0, mine.rule(6) - 1));
+        return from(0, Math.max(0, due.rule(6) - 1));
     }
 
     private void step() {
@@ -206,7 +209,7 @@ public final class ModelTest {
             same("fault(0)", mine.fault(0), due.fault(0));
             same("fault(1)", mine.fault(1), due.fault(1));
         } else if (what < 25) {
-            int n = from(0, Math.max(0, mine.count(0)));
+            int n = from(0, Math.max(0, due.count(0)));
             same("end(" + n + ")", mine.end(n), due.end(n));
         } else {
             feed(random.nextInt(), pick(0, random.nextInt()), random.nextInt(), 1 << below(32), random.nextInt());
@@ -226,7 +229,7 @@ public final class ModelTest {
                 break;
             }
             case 4: case 5: {
-                int job = below(2) == 0 ? mine.rule(6) - 1 : someJob();
+                int job = below(2) == 0 ? due.rule(6) - 1 : someJob();
                 int what = below(2) == 0 ? 0 : from(0, 2);
                 int of = below(2) == 0 ? job - 1 - below(3) : someJob();
                 int i = from(0, 1);
@@ -235,7 +238,7 @@ public final class ModelTest {
                 break;
             }
             case 6: {
-                int job = below(2) == 0 ? mine.waits(below(3)) : someJob();
+                int job = below(2) == 0 ? due.waits(below(3)) : someJob();
                 same("drop(" + job + ")", mine.drop(job), due.drop(job));
                 break;
             }
@@ -269,7 +272,7 @@ public final class ModelTest {
                 break;
             }
             case 3: {
-                int stage = from(0, Math.max(5, mine.rule(2)));
+                int stage = from(0, Math.max(5, due.rule(2)));
                 int what = from(0, 2);
                 same("trace(" + job + ", " + stage + ", " + what + ")",
                     mine.trace(job, stage, what), due.trace(job, stage, what));
@@ -277,12 +280,12 @@ public final class ModelTest {
             }
             case 4: same("signs(" + job + ")", mine.signs(job), due.signs(job)); break;
             case 5: {
-                int stage = from(0, Math.max(5, mine.rule(2)));
+                int stage = from(0, Math.max(5, due.rule(2)));
                 same("register(" + stage + ")", mine.register(stage), due.register(stage));
                 break;
             }
             case 6: {
-                int place = from(0, Math.max(1, mine.rule(3)) - 1);
+                int place = from(0, Math.max(1, due.rule(3)) - 1);
                 same("place(" + place + ")", mine.place(place), due.place(place));
                 break;
             }

@@ -339,9 +339,9 @@ public final class PromisesTest {
 
     /** Promise 12: bounds, and how near the results come to what they stand for. */
     private static void values() {
-        TurnShifts x = Check.unit(FINE);
         double one = 1 << 22;
         for (double a = -31.9; a < 32; a += 1.37) {
+            TurnShifts x = Check.unit(FINE);
             int v = (int) (a * one);
             near("12 SINE", x.value(0, v, 0, 0, 0), Math.cos(v / one) * one, 60);
             near("12 SINE", x.value(0, v, 0, 0, 1), Math.sin(v / one) * one, 60);
@@ -360,6 +360,7 @@ public final class PromisesTest {
             near("12 TURN", x.value(8, h, k, v, 0), h * Math.cos(v / one) - k * Math.sin(v / one), 1000);
             near("12 TURN", x.value(8, h, k, v, 1), h * Math.sin(v / one) + k * Math.cos(v / one), 1000);
         }
+        TurnShifts x = Check.unit(FINE);
         for (int kind = 2; kind < 8; kind++) {
             same("12 no RESULT 1", x.value(kind, 5, 7, 0, 1), kind == 4 ? x.value(4, 5, 0, 0, 1) : 0);
         }
@@ -726,12 +727,9 @@ public final class PromisesTest {
 
     /** Promises 22, 23, 24. */
     private static void results() {
-        TurnShifts x = Check.unit("width 10;guard 3;stages 12;near");
         int[][] all = {{0, 5000, 0, 0}, {1, -300, 400, 0}, {2, 3000, -5000, 0}, {3, 777, -55, 0}, {4, -600, 0, 0},
             {5, -4000, 0, 0}, {6, 7, 0, 0}, {7, 30000, 0, 0}, {8, -1200, 900, 12345}};
-        for (int[] w : all) {
-            x.job(w[0], w[1], w[2], w[3]);
-        }
+        TurnShifts x = withJobs(all);
         same("22 waits", x.result(0, 0), HIDDEN);
         same("23 waits", x.trace(0, 0, 0), Long.MIN_VALUE);
         same("24 waits", x.signs(0), NONE);
@@ -747,7 +745,9 @@ public final class PromisesTest {
             int[] w = all[job];
             same("22 as value()", x.result(job, 0), x.value(w[0], w[1], w[2], w[3], 0));
             same("22 as value()", x.result(job, 1), x.value(w[0], w[1], w[2], w[3], 1));
-            stagesOf(x, job);
+            TurnShifts again = withJobs(all);
+            again.clock(40);
+            stagesOf(again, job);
         }
         same("22 no such i", x.result(0, 2), HIDDEN);
         same("22 no such i", x.result(0, -1), HIDDEN);
@@ -758,6 +758,14 @@ public final class PromisesTest {
         }
         same("24 no such", x.signs(9), NONE);
         same("24 no such", x.signs(-1), NONE);
+    }
+
+    private static TurnShifts withJobs(int[][] all) {
+        TurnShifts x = Check.unit("width 10;guard 3;stages 12;near");
+        for (int[] w : all) {
+            x.job(w[0], w[1], w[2], w[3]);
+        }
+        return x;
     }
 
     private static void stagesOf(TurnShifts x, int job) {
@@ -820,6 +828,7 @@ public final class PromisesTest {
     private static void sweep() {
         TurnShifts x = Check.unit("width 8;guard 0;stages 6");
         for (int kind : new int[] {0, 4, 5, 6, 7}) {
+            x = Check.unit("width 8;guard 0;stages 6");
             long greatest = -1;
             long first = 0;
             int falls = 0;
@@ -834,8 +843,9 @@ public final class PromisesTest {
                 }
                 falls += v < latest ? 1 : 0;
                 latest = v;
-                if (x.apart(kind, a, 0, 0, 0) > greatest) {
-                    greatest = x.apart(kind, a, 0, 0, 0);
+                long apart = x.apart(kind, a, 0, 0, 0);
+                if (apart > greatest) {
+                    greatest = apart;
                     first = a;
                 }
             }
@@ -844,6 +854,7 @@ public final class PromisesTest {
             same("31 falls", x.sweep(kind, 1300, -9, 200, 2), falls);
             same("31 can't be", x.sweep(kind, 1300, -9, 200, 3), cannot);
         }
+        x = Check.unit("width 8;guard 0;stages 6");
         same("31 one alone", x.sweep(0, 7, 0, 1, 1), 7);
         same("31 without bounds", x.sweep(0, Integer.MAX_VALUE, Integer.MAX_VALUE, 200, 3), 200);
         same("31 without bounds", x.sweep(0, 1, Integer.MIN_VALUE, 200, 3), 199);
