@@ -27,6 +27,7 @@ public final class JobBoundsTest {
         failedOnesWaitForThePlace();
         outOfBoundsAsItIsBroughtIn();
         lastOfSixty();
+        linksOfDroppedOnes();
         linksThatAreNotNamed();
         linksThatMustWait();
         putInTillThen();
@@ -454,7 +455,35 @@ public final class JobBoundsTest {
                 same("33: 0 till then", x.told(59, what), 0);
             }
             same("33: as it was told", x.told(58, 3), 77);
+            x.clock(71);
+            same("4: the last one is done", x.told(59, 7), 71);
+            same("33: back", x.back(), 0);
+            int[] waits = {0, 0, NONE, NONE};
+            for (int what = 4; what < 8; what++) {
+                same("33: it waits again, told " + what, x.told(59, what), waits[what - 4]);
+            }
         }
+        TurnShifts y = new TurnShifts();
+        with(y, 58);
+        y.job(2, 128, 64, 0);
+        y.job(4, 0, 0, 0);
+        y.link(59, 0, 58, 0);
+        same("27: the last one fails", y.allOver(), 59 + 6);
+        y.clock(65);
+        same("4: the last one failed", y.told(59, 4), 3);
+    }
+
+    /** A JOB that was dropped is brought in no more: what it is LINKED to holds nobody up. */
+    private static void linksOfDroppedOnes() {
+        TurnShifts x = new TurnShifts();
+        with(x, 4);
+        x.link(2, 0, 1, 0);
+        x.link(2, 1, 0, 0);
+        x.link(2, 2, 1, 1);
+        x.drop(2);
+        x.clock(3);
+        same("4: the next one", x.told(3, 6), 3);
+        same("27: all over", x.allOver(), 6);
     }
 
     /** Some a, b of which TIMES makes just this. */
@@ -551,7 +580,9 @@ public final class JobBoundsTest {
         busy(x);
         x.hold(true);
         int over = x.allOver();
-        same("19: nobody is done", x.clock(100), 0);
+        same("19: nobody is done", x.clock(1), 0);
+        same("6: counted", x.rule(5), 10);
+        same("19: nobody is done", x.clock(99), 0);
         same("6: counted", x.rule(5), 109);
         same("27: were it not held", x.allOver(), over);
         same("6: held still", x.rule(10), 1);

@@ -212,6 +212,7 @@ public final class NumberBoundsTest {
                     same("8: the last ANGLE", x.stage(mode, stages - 1, 1), due.angle(mode, stages - 1).longValueExact());
                     same("8: whether it needs no word", x.stage(mode, stages - 1, 2), due.noWord(mode, stages - 1) ? 1 : 0);
                 }
+                same("8: AT(0)", x.stage(0, 0, 1), x.constant(2));
                 same("13: SINE", x.off(0), due.off(0, stages).longValueExact());
                 same("13: LOG", x.off(6), due.off(6, stages).longValueExact());
             }
@@ -339,22 +340,24 @@ public final class NumberBoundsTest {
             {4, -100, 0, 0}, {5, 411, 0, 0}, {6, 77, 0, 0}, {7, 1999, 0, 0}, {8, -300, 401, 700}, {8, 301, 40, -1700}};
         for (String rest : new String[] {";guard 0", ";guard 0;near", ";guard 3", ";guard 3;near"}) {
             for (int[] w : all) {
-                TurnShifts x = Check.unit("width 8;stages 9" + rest);
-                x.job(w[0], w[1], w[2], w[3]);
-                x.clock(11);
-                stagesOf(x, rest.endsWith("near"));
-                resultsOf(x, x.rule(1));
-                same("22: as value()", x.result(0, 0), x.value(w[0], w[1], w[2], w[3], 0));
-                same("22: as value()", x.result(0, 1), x.value(w[0], w[1], w[2], w[3], 1));
+                for (int stages : new int[] {5, 9, 24}) {
+                    TurnShifts x = Check.unit("width 8;stages " + stages + rest);
+                    x.job(w[0], w[1], w[2], w[3]);
+                    x.clock(stages + 2);
+                    stagesOf(x, stages, rest.endsWith("near"));
+                    resultsOf(x, stages, x.rule(1));
+                    same("22: as value()", x.result(0, 0), x.value(w[0], w[1], w[2], w[3], 0));
+                    same("22: as value()", x.result(0, 1), x.value(w[0], w[1], w[2], w[3], 1));
+                }
             }
         }
     }
 
-    private static void stagesOf(TurnShifts x, boolean near) {
+    private static void stagesOf(TurnShifts x, int stages, boolean near) {
         int mode = x.told(0, 8);
         boolean turning = x.told(0, 9) == 1;
         int signs = x.signs(0);
-        for (int stage = 0; stage < 9; stage++) {
+        for (int stage = 0; stage < stages; stage++) {
             int k = x.stage(mode, stage, 0);
             long half = near && k > 0 ? 1L << (k - 1) : 0;
             long[] at = {x.trace(0, stage, 0), x.trace(0, stage, 1), x.trace(0, stage, 2)};
@@ -366,13 +369,13 @@ public final class NumberBoundsTest {
             same("23: y", x.trace(0, stage + 1, 1), at[1] + byX);
             same("23: z", x.trace(0, stage + 1, 2), at[2] - d * x.stage(mode, stage, 1));
         }
-        same("24: no more bits", signs >> 9, 0);
+        same("24: no more bits", signs >> stages, 0);
     }
 
     /** What is TAKEN OUT of those that say so: POLAR's x, both of TURN; POLAR's z, BOW's x, y as they are. */
-    private static void resultsOf(TurnShifts x, int guard) {
+    private static void resultsOf(TurnShifts x, int stages, int guard) {
         int kind = x.told(0, 0);
-        long[] last = {x.trace(0, 9, 0), x.trace(0, 9, 1), x.trace(0, 9, 2)};
+        long[] last = {x.trace(0, stages, 0), x.trace(0, stages, 1), x.trace(0, stages, 2)};
         long half = guard == 0 ? 0 : 1L << (guard - 1);
         if (kind == 1 || kind == 8) {
             same("3: x TAKEN OUT", x.result(0, 0), x.takenOut(0, (int) last[0]) + half >> guard);
@@ -643,7 +646,8 @@ public final class NumberBoundsTest {
     private static void overBroughtNear() {
         int[][] all = {{5, 5, 5, 5, 0}, {6, 5, 10, 6, 1}, {10, 5, 10, 10, 1}, {11, 5, 20, 11, 2}, {320, 5, 320, 320, 6},
             {-5, 5, 5, -5, 0}, {-6, 5, 10, -6, 1}, {5, -5, 5, -5, 0}, {-6, -5, 10, 6, 1}, {0, -5, 5, 0, 0},
-            {161, 5, 320, 161, 6}, {160, 5, 160, 160, 5}, {-161, -5, 320, 161, 6}, {1024, 1024, 1024, 1024, 0}};
+            {161, 5, 320, 161, 6}, {160, 5, 160, 160, 5}, {-161, -5, 320, 161, 6}, {1024, 1024, 1024, 1024, 0},
+            {5, -1, 8, -5, 3}, {-5, -1, 8, 5, 3}, {5, 1, 8, 5, 3}, {-5, 1, 8, -5, 3}, {0, 1, 1, 0, 0}, {0, -1, 1, 0, 0}};
         TurnShifts x = Check.unit(SMALL);
         for (int[] w : all) {
             begins(SMALL, 3, w[0], w[1], 0, w[2], w[3], 0);

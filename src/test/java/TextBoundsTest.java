@@ -711,7 +711,8 @@ public final class TextBoundsTest {
                 Check.tape(x, text);
             }, x -> x.orders(), NONE, 1);
         }
-        String[] beyond = {"log 0", "sine 5;log 0", "log 0;sine 5", "sine 5;bow @0;over 1 0;sine 5", "bow 513", "bow -513"};
+        String[] beyond = {"log 0", "sine 5;log 0", "log 0;sine 5", "sine 5;bow @0;over 1 0;sine 5", "bow 513", "bow -513",
+            "bow 1;times 1 @0;bow 513", "bow 1;turn 1 1 @0;bow 513", "bow 1;bow 513;turn @0 @0 @0"};
         for (String text : beyond) {
             Watch.refused("15: out of bounds: " + text, x -> {
                 busy(x);
@@ -759,6 +760,17 @@ public final class TextBoundsTest {
             for (int what = 0; what < 3; what++) {
                 same("15: linked(" + (9 + line) + ", " + what + ")", x.linked(9 + line, what), links[line][what]);
                 same("15: told(" + (9 + line) + ", " + what + ")", x.told(9 + line, 1 + what), told[line][what]);
+            }
+        }
+        Check.tape(x, "turn 7 8 9;turn 7 8 9");
+        x.fault(1);
+        Check.tape(x, "bow 5;times 6 7");
+        same("15: behind those", x.orders(), 2);
+        int[][] named = {{5, 0, 0}, {6, 7, 0}};
+        for (int line = 0; line < 2; line++) {
+            for (int what = 0; what < 3; what++) {
+                same("15: what isn't named is 0", x.told(14 + line, 1 + what), named[line][what]);
+                same("15: not linked", x.linked(14 + line, what), NONE);
             }
         }
         x.clock(100);
