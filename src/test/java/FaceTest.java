@@ -3,6 +3,7 @@ import java.lang.reflect.Field;
 import java.lang.reflect.Method;
 import java.lang.reflect.Modifier;
 import java.util.Arrays;
+import java.util.NoSuchElementException;
 import java.util.Set;
 import java.util.TreeSet;
 
@@ -33,17 +34,20 @@ public final class FaceTest {
             if (!Modifier.isPrivate(method.getModifiers())) {
                 shown.add(signature(method));
                 names.add(method.getName());
+                throwsAsTold(method);
             }
         }
         Set<String> due = new TreeSet<>(Arrays.asList(FACE));
         Check.yes("the methods: " + shown, shown.equals(due));
         for (Field field : face.getDeclaredFields()) {
             boolean constant = field.getName().equals("NONE") || field.getName().equals("HIDDEN");
+            Check.yes("a constant: " + field, !constant || field.getType() == int.class
+                && field.getModifiers() == (Modifier.PUBLIC | Modifier.STATIC | Modifier.FINAL));
             Check.yes("no other field is seen: " + field, constant || Modifier.isPrivate(field.getModifiers()));
         }
         Constructor<?>[] made = face.getDeclaredConstructors();
         Check.yes("one constructor", made.length == 1 && made[0].getParameterCount() == 0
-            && Modifier.isPublic(made[0].getModifiers()));
+            && Modifier.isPublic(made[0].getModifiers()) && made[0].getExceptionTypes().length == 0);
         inside(face, names, true);
         for (Class<?> nested : face.getDeclaredClasses()) {
             inside(nested, names, false);
@@ -51,6 +55,15 @@ public final class FaceTest {
         }
         Check.yes("at most twelve classes", face.getDeclaredClasses().length <= 11);
         Check.end();
+    }
+
+    /** "int told(int job, int what) throws NoSuchElementException": no other names one. */
+    private static void throwsAsTold(Method method) {
+        Class<?>[] named = method.getExceptionTypes();
+        boolean told = method.getName().equals("told");
+        Check.same("exceptions that are named: " + method, named.length, told ? 1 : 0);
+        Check.yes("it is this one: " + method, !told || named.length == 1 && named[0] == NoSuchElementException.class);
+        Check.yes("public, of the object: " + method, method.getModifiers() == Modifier.PUBLIC);
     }
 
     private static String signature(Method method) {

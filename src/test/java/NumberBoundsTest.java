@@ -43,6 +43,7 @@ public final class NumberBoundsTest {
         turnBroughtNear();
         quartersPutBack();
         offAndFewest();
+        soFarOffAtTheMost();
         finestOfAllUnits();
         sweepBounds();
         sweepsWithoutBounds();
@@ -783,6 +784,52 @@ public final class NumberBoundsTest {
         };
         Watch.asks("30: nothing is changed", small, y -> y.fewest(0, MAX), 5);
         Watch.asks("13: nothing is changed", small, y -> y.off(1), NONE);
+    }
+
+    /**
+     * "(So far RESULTS are off at the most.)", of all units. Where the hyperbola's second SHIFT of 13 is missing, its
+     * ANGLES leave a gap behind the second 4 that the document's sum doesn't have; LOG may be off by twice that more.
+     */
+    private static void soFarOffAtTheMost() {
+        for (int unit = 0; unit < 17 * 5 * 20 * 2; unit++) {
+            int width = 6 + unit % 17;
+            int guard = unit / 17 % 5;
+            int stages = 5 + unit / 85 % 20;
+            String near = unit / 1700 == 0 ? "" : ";near";
+            TurnShifts x = Check.unit("width " + width + ";guard " + guard + ";stages " + stages + near);
+            double one = 1 << width;
+            double gap = 2.0 * gapOf(x, 2, stages) / (1 << guard);
+            same("13: the circle has no gap", gapOf(x, 0, stages), 0);
+            int most = 32 << width;
+            int step = 2 * most / 119;
+            int sineOff = x.off(0);
+            int logOff = x.off(6);
+            for (int a = -most + unit % step; a <= most; a += step) {
+                within("13: the cosine of " + a, x.value(0, a, 0, 0, 0), Math.cos(a / one) * one, sineOff);
+                within("13: the sine of " + a, x.value(0, a, 0, 0, 1), Math.sin(a / one) * one, sineOff);
+                if (a > 0) {
+                    within("13: the log of " + a, x.value(6, a, 0, 0, 0), Math.log(a / one) * one, logOff + gap);
+                }
+            }
+        }
+    }
+
+    /** By how much an ANGLE is at the most more than all behind it and the last one once more. */
+    private static long gapOf(TurnShifts x, int mode, int stages) {
+        long behind = x.stage(mode, stages - 1, 1);
+        long gap = 0;
+        for (int stage = stages - 1; stage >= 0; stage--) {
+            // What is rounded is no gap: half a unit of each ANGLE.
+            gap = Math.max(gap, x.stage(mode, stage, 1) - behind - stages);
+            behind += x.stage(mode, stage, 1);
+        }
+        return gap;
+    }
+
+    private static void within(String what, long got, double want, double off) {
+        if (Math.abs(got - want) > off) {
+            same(what + " (off by " + off + " at the most)", got, Math.round(want));
+        }
     }
 
     /** "the RESULT that a UNIT with width 22, guard 4, stages 24, near would have of a, b, c times 2 to the (22 - F)". */
